@@ -22,7 +22,6 @@ public final class DrumTowns {
 
     private static final int COUNTS = 11;
     private static final int PROPERTIES = 12;
-    private static final int STEP_MASKS = 3;
     private static final int FORECASTS = 5;
     private static final int FIRST_PLACE = 10;
 
@@ -347,13 +346,7 @@ public final class DrumTowns {
             throw new IllegalArgumentException("what is not 0 to 4");
         }
         foresee(town);
-        switch (what) {
-            case 0: return playing.sounds;
-            case 1: return playing.stayed;
-            case 2: return playing.fallen;
-            case 3: return playing.rightSounds;
-            default: return dullTeeth(playing.wear, land.settings[DULL_FROM]);
-        }
+        return playing.tell(what);
     }
 
     public int lastsFor(int town) throws IndexOutOfBoundsException {
@@ -409,11 +402,7 @@ public final class DrumTowns {
             throw new IllegalArgumentException("what is not 0 or 10 to 15");
         }
         trades.find(land);
-        if (what == 0) {
-            return trades.most;
-        }
-        int town = what - FIRST_PLACE;
-        return town < land.townCount ? trades.drumOf[town] : NONE;
+        return trades.tell(what);
     }
 
     public int ring(int what) throws IllegalArgumentException {
@@ -421,17 +410,7 @@ public final class DrumTowns {
             throw new IllegalArgumentException("what is not 0, 1, or 10 to 15");
         }
         ring.find(land);
-        if (ring.length == 0) {
-            return NONE;
-        }
-        if (what == 0) {
-            return ring.length;
-        }
-        if (what == 1) {
-            return ring.least;
-        }
-        int place = what - FIRST_PLACE;
-        return place < ring.length ? ring.row[place] : NONE;
+        return ring.tell(what);
     }
 
     public double tuneShare() {
@@ -478,8 +457,9 @@ public final class DrumTowns {
         for (int what = 0; what < PROPERTIES; what++) {
             hash = mixed(hash, town(town, what));
         }
+        foresee(town);
         for (int what = 0; what < FORECASTS; what++) {
-            hash = mixed(hash, ifPlayed(town, what));
+            hash = mixed(hash, playing.tell(what));
         }
         hash = mixed(hash, lastsFor(town));
         hash = mixed(hash, bestTurn(town, 0));
@@ -506,18 +486,20 @@ public final class DrumTowns {
     }
 
     private long mixedWithTrades(long start) {
-        long hash = mixed(start, bestTrades(0));
+        trades.find(land);
+        long hash = mixed(start, trades.tell(0));
         for (int i = 0; i < MOST_TOWNS; i++) {
-            hash = mixed(hash, bestTrades(FIRST_PLACE + i));
+            hash = mixed(hash, trades.tell(FIRST_PLACE + i));
         }
         return hash;
     }
 
     private long mixedWithRing(long start) {
-        long hash = mixed(start, ring(0));
-        hash = mixed(hash, ring(1));
+        ring.find(land);
+        long hash = mixed(start, ring.tell(0));
+        hash = mixed(hash, ring.tell(1));
         for (int i = 0; i < MOST_TOWNS; i++) {
-            hash = mixed(hash, ring(FIRST_PLACE + i));
+            hash = mixed(hash, ring.tell(FIRST_PLACE + i));
         }
         return hash;
     }
@@ -824,10 +806,16 @@ public final class DrumTowns {
         private void goThrough(int[] tune) {
             forgetSounds();
             for (int i = 0; i < STEPS; i++) {
-                for (int tooth = 0; tooth < TEETH; tooth++) {
-                    if ((drum[i] & 1 << tooth) != 0) {
-                        meetPin(i, tooth, (tune[i] & 1 << tooth) != 0);
-                    }
+                if (drum[i] != 0) {
+                    passStep(i, tune[i]);
+                }
+            }
+        }
+
+        private void passStep(int at, int tuneTeeth) {
+            for (int tooth = 0; tooth < TEETH; tooth++) {
+                if ((drum[at] & 1 << tooth) != 0) {
+                    meetPin(at, tooth, (tuneTeeth & 1 << tooth) != 0);
                 }
             }
         }
@@ -862,6 +850,16 @@ public final class DrumTowns {
                 rightSounds += right ? 1 : 0;
             }
         }
+
+        private int tell(int what) {
+            switch (what) {
+                case 0: return sounds;
+                case 1: return stayed;
+                case 2: return fallen;
+                case 3: return rightSounds;
+                default: return dullTeeth(wear, dullFrom);
+            }
+        }
     }
 
     /** The first ring of a land; its length is 0 if there is none. */
@@ -887,7 +885,7 @@ public final class DrumTowns {
 
         // Lower towns are tried first, so the first row that closes is the first of its length.
         private static boolean isClosed(Land land, int[] row, int size, int depth, int used) {
-            if (depth < 1 || depth > MOST_TOWNS || depth > size) {
+            if (depth < 1 || depth > size || size > MOST_TOWNS) {
                 return false;
             }
             int last = row[depth - 1];
@@ -916,6 +914,17 @@ public final class DrumTowns {
             }
             return found;
         }
+
+        private int tell(int what) {
+            if (length == 0) {
+                return NONE;
+            }
+            if (what < FIRST_PLACE) {
+                return what == 0 ? length : least;
+            }
+            int place = what - FIRST_PLACE;
+            return place < length ? row[place] : NONE;
+        }
     }
 
     /**
@@ -926,34 +935,36 @@ public final class DrumTowns {
         private final int[][] fit = new int[MOST_TOWNS][MOST_TOWNS];
         private final int[] rest = new int[1 << MOST_TOWNS];
         private final int[] drumOf = new int[MOST_TOWNS];
+        private int townCount;
         private int most;
 
         private void find(Land land) {
-            for (int i = 0; i < land.townCount; i++) {
-                for (int j = 0; j < land.townCount; j++) {
+            townCount = land.townCount;
+            for (int i = 0; i < townCount; i++) {
+                for (int j = 0; j < townCount; j++) {
                     fit[i][j] = sharedBy(land.towns[j].drum, land.towns[i].tune);
                 }
             }
-            int all = (1 << land.townCount) - 1;
+            int all = (1 << townCount) - 1;
             rest[all] = 0;
             for (int had = all - 1; had >= 0; had--) {
                 int town = Integer.bitCount(had);
-                rest[had] = broughtBy(town, firstBest(had, land.townCount), had);
+                rest[had] = broughtBy(town, firstBest(had), had);
             }
             most = rest[0];
-            choose(land.townCount);
+            choose();
         }
 
-        private void choose(int townCount) {
+        private void choose() {
             int had = 0;
             for (int town = 0; town < townCount; town++) {
-                int drum = firstBest(had, townCount);
+                int drum = firstBest(had);
                 drumOf[town] = drum;
                 had |= 1 << drum;
             }
         }
 
-        private int firstBest(int had, int townCount) {
+        private int firstBest(int had) {
             int town = Integer.bitCount(had);
             int best = 0;
             int bestBrought = -1;
@@ -968,6 +979,14 @@ public final class DrumTowns {
 
         private int broughtBy(int town, int drum, int had) {
             return fit[town][drum] + rest[had | 1 << drum];
+        }
+
+        private int tell(int what) {
+            if (what < FIRST_PLACE) {
+                return most;
+            }
+            int town = what - FIRST_PLACE;
+            return town < townCount ? drumOf[town] : NONE;
         }
     }
 

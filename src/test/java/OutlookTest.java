@@ -14,6 +14,7 @@ public final class OutlookTest {
         promise28BestDrum();
         promise29BestTrades();
         promise29BestTradesOfSeveral();
+        promise29BestTradesAfterUndo();
         promise30Ring();
         promise30RingOrder();
         promise31TuneShare();
@@ -82,6 +83,10 @@ public final class OutlookTest {
         due("play(0)", 3, land.play(0));
         due("the right pin fell", 0, land.town(0, 3));
         due("lastsFor then", NONE, land.lastsFor(0));
+        DrumTowns alone = Checks.landOf(1, 1);
+        alone.put(0, 0, 0);
+        Checks.learn(alone, 0, "a");
+        due("lastsFor of a right pin alone", 11, alone.lastsFor(0));
         CHECKS.dueThrow("lastsFor(1)", INDEX, land, () -> land.lastsFor(1));
         CHECKS.dueThrow("lastsFor(-1)", INDEX, land, () -> land.lastsFor(-1));
     }
@@ -103,6 +108,11 @@ public final class OutlookTest {
         due("nothing is turned by it", 6, land.step(0, 4, 0));
         due("turn by it", 2, land.turn(0, land.bestTurn(0, 0)));
         due("bestTurn(0, 0) then", 0, land.bestTurn(0, 0));
+        Checks.learn(land, 0, "-(bc)");
+        land.turn(0, 21);
+        due("a pin at step 0", 6, land.step(0, 0, 0));
+        due("bestTurn(0, 0) by one", 1, land.bestTurn(0, 0));
+        due("bestTurn(0, 1) by one", 2, land.bestTurn(0, 1));
         CHECKS.dueThrow("bestTurn(1, 0)", INDEX, land, () -> land.bestTurn(1, 0));
         CHECKS.dueThrow("bestTurn(-1, 2)", INDEX, land, () -> land.bestTurn(-1, 2));
         CHECKS.dueThrow("bestTurn(0, 2)", ARGUMENT, land, () -> land.bestTurn(0, 2));
@@ -161,6 +171,11 @@ public final class OutlookTest {
         dueTrades(land, 3, 0, 1, 2);
         land.trade(0, 1);
         dueTrades(land, 3, 1, 0, 2);
+        land.undo();
+        land.undo();
+        dueTrades(land, 3, 0, 2, 1);
+        land.trade(1, 2);
+        land.trade(0, 1);
         due("nothing is traded by it", 3, land.step(0, 0, 0) | land.step(0, 1, 0));
     }
 
@@ -183,6 +198,21 @@ public final class OutlookTest {
         }
         // The drum i has the pin of the town i + 2.
         dueTrades(land, 6, 4, 5, 0, 1, 2, 3);
+    }
+
+    /** What was found for more towns must not be left for fewer ones. */
+    private static void promise29BestTradesAfterUndo() {
+        DrumTowns land = Checks.landOf(1, 20);
+        Checks.learn(land, 0, "a");
+        land.put(0, 0, 0);
+        land.addTown(20);
+        land.move(0, 1, 0, 0);
+        Checks.learn(land, 1, "a");
+        dueTrades(land, 1, 0, 1);
+        land.undo();
+        land.undo();
+        land.undo();
+        dueTrades(land, 1, 0);
     }
 
     private static void owe(DrumTowns land, int from, int to, int pins) {
@@ -279,14 +309,20 @@ public final class OutlookTest {
         dueShare(land, 1.0);
     }
 
+    /** The digest comes first: it must not live on what the other calls have found. */
+    private static void dueDigest(String when, DrumTowns land, String buffer) {
+        long got = land.digest();
+        due("digest() " + when, digestOf(land, buffer), got);
+    }
+
     private static void promise32Digest() {
         DrumTowns land = new DrumTowns();
-        due("digest() of a new object", digestOf(land, ""), land.digest());
+        dueDigest("of a new object", land, "");
         Checks.append(land, "(ab");
-        due("digest() with a buffer", digestOf(land, "(ab"), land.digest());
+        dueDigest("with a buffer", land, "(ab");
         for (int i = 0; i < 6; i++) {
             land.addTown(30 + i);
-            due("digest() with towns", digestOf(land, "(ab"), land.digest());
+            dueDigest("with towns", land, "(ab");
         }
         String[] tunes = {"abc", "(ab)-(cl)", "-", "a-b-c-d", "(abcdefghijkl)", "lll"};
         for (int i = 0; i < 6; i++) {
@@ -295,17 +331,17 @@ public final class OutlookTest {
                 land.put(i, (i * 5 + j) % 24, (i + j * j) % 12);
             }
             owe(land, i, (i + 1) % 6, i + 1);
-            due("digest() of a busy land", digestOf(land, ""), land.digest());
+            dueDigest("of a busy land", land, "");
         }
         land.set(1, 1);
         for (int i = 0; i < 6; i += 2) {
             land.play(i);
-            due("digest() after a playing", digestOf(land, ""), land.digest());
+            dueDigest("after a playing", land, "");
         }
         land.settle();
         land.undo();
-        due("digest() after undo", digestOf(land, ""), land.digest());
-        due("digest() changes nothing", digestOf(land, ""), land.digest());
+        dueDigest("after undo", land, "");
+        dueDigest("changes nothing", land, "");
     }
 
     private static void promise32DigestByHand() {

@@ -125,6 +125,10 @@ public final class ReadingsTest {
         for (int what = 0; what <= 10; what++) {
             due("count(" + what + ") after settle", then[what], land.count(what));
         }
+        land.put(0, 12, 3);
+        land.put(2, 13, 4);
+        due("count(1) with pins in each drum", 150, land.count(1));
+        due("count(2) with pins in each drum", 144, land.count(2));
         CHECKS.dueThrow("count(-1)", ARGUMENT, land, () -> land.count(-1));
         CHECKS.dueThrow("count(11)", ARGUMENT, land, () -> land.count(11));
     }

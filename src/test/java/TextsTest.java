@@ -17,6 +17,7 @@ public final class TextsTest {
         promise17LearnRefuses();
         promise18Undo();
         promise18UndoBringsBackAll();
+        promise18EachUndoableCallSaves();
         CHECKS.end();
     }
 
@@ -212,6 +213,40 @@ public final class TextsTest {
             case 3: land.repay(1, 0, 1); break;
             case 4: land.trade(0, 1); break;
             default: land.turn(0, 5); break;
+        }
+    }
+
+    private static void promise18EachUndoableCallSaves() {
+        for (int i = 0; i < 13; i++) {
+            DrumTowns land = Checks.landOf(2, 40);
+            Checks.learn(land, 0, "ab");
+            land.put(0, 0, 0);
+            land.lend(0, 1, 5);
+            // Five are saved then: one call more drops none of them.
+            long before = digestButSaved(land);
+            land.append('a');
+            callUndoable(land, i);
+            due("saved states after undoable call " + i, 6, land.count(10));
+            due("undo() of undoable call " + i, 5, land.undo());
+            due("all after undo of call " + i, before, digestButSaved(land));
+        }
+    }
+
+    private static void callUndoable(DrumTowns land, int which) {
+        switch (which) {
+            case 0: land.addTown(1); break;
+            case 1: land.set(0, 2); break;
+            case 2: land.put(0, 3, 3); break;
+            case 3: land.pull(0, 0, 0); break;
+            case 4: land.move(0, 1, 0, 0); break;
+            case 5: land.trade(0, 1); break;
+            case 6: land.turn(0, 1); break;
+            case 7: land.file(0, 0); break;
+            case 8: land.play(0); break;
+            case 9: land.lend(1, 0, 1); break;
+            case 10: land.repay(1, 0, 1); break;
+            case 11: land.settle(); break;
+            default: land.learn(0); break;
         }
     }
 
