@@ -8,6 +8,12 @@ final class Checks {
         }
     }
 
+    void dueText(String call, String want, String got) {
+        if (!want.equals(got)) {
+            report(call + ": told " + got + ", due is " + want);
+        }
+    }
+
     void dueThrow(String call, Class<? extends RuntimeException> want, Runnable body) {
         Class<?> thrown = null;
         try {

@@ -312,7 +312,7 @@ public final class OutlookTest {
     /** The digest comes first: it must not live on what the other calls have found. */
     private static void dueDigest(String when, DrumTowns land, String buffer) {
         long got = land.digest();
-        due("digest() " + when, digestOf(land, buffer), got);
+        due("digest() " + when, DigestOfAnswers.of(land, buffer), got);
     }
 
     private static void promise32Digest() {
@@ -353,60 +353,5 @@ public final class OutlookTest {
             hash = 31 * hash + value;
         }
         due("digest() of a new object by hand", hash, new DrumTowns().digest());
-    }
-
-    /** The hash as promise 32 tells it, of what the other calls answer. */
-    private static long digestOf(DrumTowns land, String buffer) {
-        long hash = 2357;
-        for (int what = 0; what <= 10; what++) {
-            hash = 31 * hash + land.count(what);
-        }
-        for (int i = 0; i <= 2; i++) {
-            hash = 31 * hash + land.setting(i);
-        }
-        for (int i = 0; i < land.count(0); i++) {
-            hash = digestOfTown(land, i, hash);
-        }
-        hash = 31 * hash + land.bestTrades(0);
-        for (int what = 10; what <= 15; what++) {
-            hash = 31 * hash + land.bestTrades(what);
-        }
-        hash = 31 * hash + land.ring(0);
-        hash = 31 * hash + land.ring(1);
-        for (int what = 10; what <= 15; what++) {
-            hash = 31 * hash + land.ring(what);
-        }
-        hash = 31 * hash + Double.doubleToLongBits(land.tuneShare());
-        hash = 31 * hash + buffer.length();
-        for (int i = 0; i < buffer.length(); i++) {
-            hash = 31 * hash + buffer.charAt(i);
-        }
-        return hash;
-    }
-
-    private static long digestOfTown(DrumTowns land, int town, long start) {
-        long hash = start;
-        for (int what = 0; what <= 11; what++) {
-            hash = 31 * hash + land.town(town, what);
-        }
-        for (int what = 0; what <= 4; what++) {
-            hash = 31 * hash + land.ifPlayed(town, what);
-        }
-        hash = 31 * hash + land.lastsFor(town);
-        hash = 31 * hash + land.bestTurn(town, 0);
-        hash = 31 * hash + land.bestTurn(town, 1);
-        hash = 31 * hash + land.bestDrum(town);
-        for (int i = 0; i < 12; i++) {
-            hash = 31 * hash + land.wear(town, i);
-        }
-        for (int i = 0; i < land.count(0); i++) {
-            hash = 31 * hash + land.debt(town, i);
-        }
-        for (int i = 0; i < 24; i++) {
-            for (int what = 0; what <= 2; what++) {
-                hash = 31 * hash + land.step(town, i, what);
-            }
-        }
-        return hash;
     }
 }
