@@ -1,9 +1,15 @@
-/** The hash as promise 32 tells it, of what the other calls answer. */
+import java.util.function.Supplier;
+
+/**
+ * The hash as promise 32 tells it, of what the other calls answer. They are asked of lands that are
+ * made alike, one for each town, as an object is used for at most 512 calls.
+ */
 final class DigestOfAnswers {
     private DigestOfAnswers() {
     }
 
-    static long of(DrumTowns land, String buffer) {
+    static long of(Supplier<DrumTowns> made, String buffer) {
+        DrumTowns land = made.get();
         long hash = 2357;
         for (int what = 0; what <= 10; what++) {
             hash = 31 * hash + land.count(what);
@@ -12,7 +18,7 @@ final class DigestOfAnswers {
             hash = 31 * hash + land.setting(i);
         }
         for (int i = 0; i < land.count(0); i++) {
-            hash = ofTown(land, i, hash);
+            hash = ofTown(made.get(), i, hash);
         }
         hash = 31 * hash + land.bestTrades(0);
         for (int what = 10; what <= 15; what++) {

@@ -1,3 +1,5 @@
+import java.util.function.Supplier;
+
 /** The boundary cases that promises 25 to 32 name: what would be. */
 public final class OutlookEdgesTest {
     private static final Class<IllegalArgumentException> ARGUMENT = IllegalArgumentException.class;
@@ -372,7 +374,7 @@ public final class OutlookEdgesTest {
         due("right pins as it is", 2, land.count(9));
     }
 
-    /** "of all that bring so many the one by which the town 0 has that of the lowest town, of several the town 1, .." */
+    /** "the one by which the town 0 has that of the lowest town, of several the town 1, and so on" */
     private static void promise29OfSeveralTheLowestTown() {
         DrumTowns land = Lands.six();
         Checks.learn(land, 5, "a");
@@ -497,56 +499,71 @@ public final class OutlookEdgesTest {
         due("digest() of a new object", hash, new DrumTowns().digest());
     }
 
-    private static void dueDigest(String when, DrumTowns land, String buffer) {
-        long got = land.digest();
-        due("digest() " + when, DigestOfAnswers.of(land, buffer), got);
+    private static void dueDigest(String when, Supplier<DrumTowns> made, String buffer) {
+        due("digest() " + when, DigestOfAnswers.of(made, buffer), made.get().digest());
+    }
+
+    private static DrumTowns undone(DrumTowns land, int undos) {
+        for (int i = 0; i < undos; i++) {
+            land.undo();
+        }
+        return land;
     }
 
     /** "for each town its properties .., its debt to each town": from no town to 6. */
     private static void promise32EachSizeOfLand() {
-        for (int towns = 0; towns <= 6; towns++) {
-            dueDigest("of " + towns + " towns", Checks.landOf(towns, 5), "");
+        for (int i = 0; i <= 6; i++) {
+            int towns = i;
+            dueDigest("of " + i + " towns", () -> Checks.landOf(towns, 5), "");
+            dueDigest("after " + i + " undos", () -> undone(Lands.busy(), towns), "a(b");
         }
-        dueDigest("of a busy land", Lands.busy(), "a(b");
-        dueDigest("of a worn land", worn(), "a(b");
-        DrumTowns land = Lands.busy();
-        for (int left = 5; left >= 0; left--) {
-            land.undo();
-            dueDigest("with " + left + " saved states", land, "a(b");
+        dueDigest("of a worn land", OutlookEdgesTest::worn, "a(b");
+    }
+
+    /** A town whose tune has the tooth 5 at so many steps, and so many of them have a pin. */
+    private static DrumTowns sharing(int right, int needed) {
+        DrumTowns land = Checks.landOf(1, 24);
+        Checks.learn(land, 0, "f".repeat(needed));
+        for (int i = 0; i < right; i++) {
+            land.put(0, i, 5);
         }
+        return land;
+    }
+
+    /** Six towns with tunes that are as long as a text can be, and one right pin. */
+    private static DrumTowns sharingLeast() {
+        DrumTowns land = Lands.put(Checks.landOf(6, 5), 0, 0, 0);
+        for (int town = 0; town < 6; town++) {
+            Checks.learn(land, town, "(abcdefghijkl)".repeat(4) + "(kl)");
+        }
+        return land;
     }
 
     /** "the bits of tuneShare (as Double.doubleToLongBits)" */
     private static void promise32TheBitsOfTuneShare() {
-        for (int needed = 1; needed <= 24; needed++) {
-            DrumTowns land = Checks.landOf(1, 24);
-            Checks.learn(land, 0, "f".repeat(needed));
-            dueDigest("with a share of 0 of " + needed, land, "");
-            for (int right = 1; right <= needed; right++) {
-                land.put(0, right - 1, 5);
-                dueDigest("with a share of " + right + " of " + needed, land, "");
+        for (int i = 1; i <= 24; i++) {
+            for (int j = 0; j <= i; j++) {
+                int needed = i;
+                int right = j;
+                dueDigest("with a share of " + right + " of " + needed, () -> sharing(right, needed), "");
             }
         }
-        DrumTowns least = Lands.put(Checks.landOf(6, 5), 0, 0, 0);
-        for (int town = 0; town < 6; town++) {
-            Checks.learn(least, town, "(abcdefghijkl)".repeat(4) + "(kl)");
-        }
-        dueDigest("with a share of 1 of 300", least, "");
+        dueDigest("with a share of 1 of 300", OutlookEdgesTest::sharingLeast, "");
     }
 
     /** "the length of the buffer and each of its character codes" */
     private static void promise32TheBuffer() {
-        DrumTowns land = new DrumTowns();
-        StringBuilder buffer = new StringBuilder();
+        StringBuilder codes = new StringBuilder();
         for (int i = 0; i < 60; i++) {
-            char code = (char) (33 + i * 37 % 94);
-            land.append(code);
-            buffer.append(code);
-            dueDigest("with a buffer of " + (i + 1), land, buffer.toString());
+            codes.append((char) (33 + i * 37 % 94));
+            String buffer = codes.toString();
+            dueDigest("with a buffer of " + (i + 1), () -> Lands.withBuffer(new DrumTowns(), buffer), buffer);
         }
-        land.clearBuffer();
-        dueDigest("with a buffer that is cleared", land, "");
-        land.append('z');
-        dueDigest("with a buffer that was cleared", land, "z");
+        DrumTowns cleared = Lands.withBuffer(new DrumTowns(), codes.toString());
+        cleared.clearBuffer();
+        due("digest() with a buffer that is cleared", new DrumTowns().digest(), cleared.digest());
+        cleared.append('z');
+        DrumTowns fresh = Lands.withBuffer(new DrumTowns(), "z");
+        due("digest() with a buffer that was cleared", fresh.digest(), cleared.digest());
     }
 }

@@ -309,39 +309,52 @@ public final class OutlookTest {
         dueShare(land, 1.0);
     }
 
-    /** The digest comes first: it must not live on what the other calls have found. */
-    private static void dueDigest(String when, DrumTowns land, String buffer) {
-        long got = land.digest();
-        due("digest() " + when, DigestOfAnswers.of(land, buffer), got);
+    private static final String[] TUNES = {"abc", "(ab)-(cl)", "-", "a-b-c-d", "(abcdefghijkl)", "lll"};
+
+    /** A land after so many changes: a buffer, 6 towns, 6 tunes with pins and debts, playings, settling, undo. */
+    private static DrumTowns changed(int changes) {
+        DrumTowns land = new DrumTowns();
+        for (int i = 0; i < changes; i++) {
+            if (i == 0) {
+                Checks.append(land, "(ab");
+            } else if (i <= 6) {
+                land.addTown(29 + i);
+            } else if (i <= 12) {
+                fill(land, i - 7);
+            } else {
+                wear(land, i - 13);
+            }
+        }
+        return land;
+    }
+
+    private static void fill(DrumTowns land, int town) {
+        Checks.learn(land, town, TUNES[town]);
+        for (int j = 0; j < 6; j++) {
+            land.put(town, (town * 5 + j) % 24, (town + j * j) % 12);
+        }
+        owe(land, town, (town + 1) % 6, town + 1);
+    }
+
+    private static void wear(DrumTowns land, int which) {
+        switch (which) {
+            case 0: land.set(1, 1); break;
+            case 1: case 2: case 3: land.play(2 * which - 2); break;
+            case 4: land.settle(); break;
+            default: land.undo();
+        }
     }
 
     private static void promise32Digest() {
-        DrumTowns land = new DrumTowns();
-        dueDigest("of a new object", land, "");
-        Checks.append(land, "(ab");
-        dueDigest("with a buffer", land, "(ab");
-        for (int i = 0; i < 6; i++) {
-            land.addTown(30 + i);
-            dueDigest("with towns", land, "(ab");
+        for (int changes = 0; changes <= 20; changes++) {
+            int upTo = changes;
+            String buffer = changes > 0 && changes <= 7 ? "(ab" : "";
+            long want = DigestOfAnswers.of(() -> changed(upTo), buffer);
+            // A land that was asked nothing else: the digest must not live on what other calls have found.
+            DrumTowns land = changed(changes);
+            due("digest() after " + changes + " changes", want, land.digest());
+            due("digest() again, after " + changes + " changes", want, land.digest());
         }
-        String[] tunes = {"abc", "(ab)-(cl)", "-", "a-b-c-d", "(abcdefghijkl)", "lll"};
-        for (int i = 0; i < 6; i++) {
-            Checks.learn(land, i, tunes[i]);
-            for (int j = 0; j < 6; j++) {
-                land.put(i, (i * 5 + j) % 24, (i + j * j) % 12);
-            }
-            owe(land, i, (i + 1) % 6, i + 1);
-            dueDigest("of a busy land", land, "");
-        }
-        land.set(1, 1);
-        for (int i = 0; i < 6; i += 2) {
-            land.play(i);
-            dueDigest("after a playing", land, "");
-        }
-        land.settle();
-        land.undo();
-        dueDigest("after undo", land, "");
-        dueDigest("changes nothing", land, "");
     }
 
     private static void promise32DigestByHand() {

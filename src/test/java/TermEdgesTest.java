@@ -1,4 +1,4 @@
-/** The boundary cases that the document names under "Terms", but for debts and input text, which have their own tests. */
+/** The boundary cases that the document names under "Terms"; debts and input text have their own tests. */
 public final class TermEdgesTest {
     private static final Class<IndexOutOfBoundsException> INDEX = IndexOutOfBoundsException.class;
     private static final Class<IllegalArgumentException> ARGUMENT = IllegalArgumentException.class;
