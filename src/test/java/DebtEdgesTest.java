@@ -16,6 +16,7 @@ public final class DebtEdgesTest {
         theLowestTownFirstAndSoOn();
         settlingTakesTheFirstRing();
         settlingGoesOnAsLongAsThereIsARing();
+        settlingGoesOnWithLongerRings();
         settlingTakesTheLeastOfTheDebts();
         promise11NoSuchTown();
         promise11BothTownsAreTheSame();
@@ -237,6 +238,27 @@ public final class DebtEdgesTest {
         due("settle() of all pairs", 15, all.settle());
         due("debts of all pairs then", 0, all.count(3));
         due("by how much they became less", 60, all.count(8));
+    }
+
+    /** The same sentence: rings of 2 leave one debt of each pair, and rings of 3 are taken of these then. */
+    private static void settlingGoesOnWithLongerRings() {
+        DrumTowns land = Checks.landOf(6, 100);
+        for (int i = 0; i < 6; i++) {
+            for (int j = 0; j < 6; j++) {
+                int ahead = (j - i + 6) % 6;
+                if (ahead != 0) {
+                    Lands.owe(land, i, j, ahead < 3 || ahead == 3 && i < 3 ? 2 : 1);
+                }
+            }
+        }
+        // 15 rings of 2, then 0 1 4, 0 2 5 and 1 3 5.
+        due("settle()", 18, land.settle());
+        due("by how much all debts became less", 30 + 9, land.count(8));
+        int[][] left = {{0, 3}, {1, 2}, {2, 3}, {2, 4}, {3, 4}, {4, 5}};
+        for (int[] pair : left) {
+            due("debt(" + pair[0] + ", " + pair[1] + ")", 1, land.debt(pair[0], pair[1]));
+        }
+        due("debts", 6, land.count(3));
     }
 
     /** "each of its towns owes to the next one less by the least of the debts in it" */
