@@ -28,7 +28,6 @@ public final class DrumTowns {
     private static final long HASH_START = 2357L;
     private static final int ONE_EXPONENT = 1023;
     private static final int FRACTION_BITS = 52;
-    private static final double FRACTION_RANGE = 4503599627370496.0;
 
     private final Land land;
     private final Land[] saved;
@@ -516,7 +515,8 @@ public final class DrumTowns {
             scaled = scaled * 2.0;
             exponent--;
         }
-        return (exponent << FRACTION_BITS) + (long) ((scaled - 1.0) * FRACTION_RANGE);
+        double fraction = (scaled - 1.0) * (double) (1L << FRACTION_BITS);
+        return (exponent << FRACTION_BITS) + (long) fraction;
     }
 
     // ---- tests of arguments
@@ -693,7 +693,9 @@ public final class DrumTowns {
             for (int i = 0; i < MOST_TOWNS; i++) {
                 towns[i] = new Town();
             }
-            copyRow(FIRST_VALUES, settings);
+            for (int i = 0; i < SETTINGS; i++) {
+                settings[i] = FIRST_VALUES[i];
+            }
         }
 
         // The towns beyond the count are copied too, so that an undone addTown leaves them as new.
